@@ -55,6 +55,8 @@ public final class PromiseTest {
         promise27();
         promise27Edges();
         promise28and29();
+        promise28and29Store();
+        promise28and29Checks();
         Check.end("PromiseTest");
     }
 
@@ -142,6 +144,13 @@ public final class PromiseTest {
         due("candidates", x.receiver(1), 15);
         due("an empty text", x.scheme(), 48);
         due("as at first", x.count(8), 0);
+        Check.type(x, "roles 1 1 c 1;");
+        due("roles told", x.scheme(), 32);
+        x.scheme();
+        int[] first = {0, 0, 1, 0, 1, 1};
+        for (int f = 0; f < first.length; f++) {
+            due("as at first role(" + f + ")", x.role(f), first[f]);
+        }
         TrunkFramer y = Check.made(LINKED);
         Check.append(y, LINKED_BITS);
         y.say(9);
@@ -388,6 +397,15 @@ public final class PromiseTest {
         y.send(8, 1);
         due("501", y.lose(0, 501), NONE);
         due("500", y.lose(0, 500), 268);
+        TrunkFramer z = Check.made("length 20;roles 0 1;");
+        for (int n = 0; n < 12; n++) {
+            z.send(8, n);
+        }
+        z.send(4, 1);
+        String ends = Check.line(z);
+        due("of a full line", z.lose(3500, 499), 3501);
+        same("of a full line", Check.line(z), ends.substring(0, 3500) + ends.substring(3999));
+        due("to its end", z.lose(3001, 500), 3001);
     }
 
     private static void promise9() {
@@ -580,6 +598,13 @@ public final class PromiseTest {
         TrunkFramer y = Check.made("length 4;roles 0 1 c c;poly 63;least 2;");
         Check.append(y, "0000 0000 0000 0000");
         due("poly's lowest two", y.checks(0), 2);
+        TrunkFramer w = Check.made("length 4;roles c 0 1;poly 1;least 2;");
+        Check.append(w, "0000 0000 0000");
+        due("c first", w.checks(0), 1);
+        w.turn(0);
+        due("c first, turned", w.checks(0), 1);
+        w.turn(4);
+        due("another turned", w.checks(0), 0);
         TrunkFramer z = Check.made(SMALL);
         Check.append(z, "1111 1111");
         due("no checks", z.checks(0), 0);
@@ -1095,5 +1120,59 @@ public final class PromiseTest {
         same("again, though turned since", state(x), kept);
         Check.due("again(1)", x.again(1), true);
         due("the other image", x.count(11), 384);
+    }
+
+    /** What is read of the store, bit by bit. */
+    private static String reads(TrunkFramer x, int bits) {
+        StringBuilder b = new StringBuilder();
+        for (int n = 0; n < bits; n++) {
+            x.hear(1);
+            b.append(x.frame(0)).append(' ').append(x.frame(1)).append(' ').append(x.frame(10)).append(' ');
+            b.append(x.signal(0)).append(' ').append(x.receiver(11)).append(' ');
+        }
+        return b.toString();
+    }
+
+    private static void promise28and29Store() {
+        TrunkFramer x = Check.made("length 4;roles 0 1;least 2;lag 50;width 3;stolen 2;");
+        Check.append(x, SMALL_BITS);
+        for (int n = 0; n < 5; n++) {
+            x.send(8, n);
+        }
+        x.hear(143);
+        due("two in the store", x.receiver(14), 2);
+        x.image(1);
+        String first = reads(x, 21);
+        String second = reads(x, 80);
+        x.again(1);
+        same("again: the store", reads(x, 21), first);
+        same("again: the store later", reads(x, 80), second);
+        x.again(1);
+        x.hear(60);
+        x.undo();
+        same("undo: the store", reads(x, 21), first);
+    }
+
+    private static void promise28and29Checks() {
+        TrunkFramer x = Check.made(CHECKED);
+        Check.append(x, CHECKED_BITS + CHECKED_BITS + CHECKED_BITS);
+        x.turn(32);
+        x.hear(35);
+        x.image(0);
+        x.hear(1);
+        due("a mimic", x.receiver(3), 1);
+        x.image(1);
+        x.again(0);
+        due("not yet", x.receiver(3), 0);
+        x.again(1);
+        due("again a mimic", x.receiver(3), 1);
+        x.send(1, 7);
+        int checks = x.checks(36);
+        x.image(2);
+        for (int n = 0; n < 3; n++) {
+            x.send(3, n);
+            due("checks of what was sent ahead of it", x.bit(48 + 8), checks);
+            x.again(2);
+        }
     }
 }

@@ -12,10 +12,13 @@ public final class RandomRunsTest {
     private final Model m = new Model();
     private final StringBuilder log = new StringBuilder();
     private final boolean wild;
+    /** Short frames with checks, a link and signals, much sent and heard, little damaged. */
+    private final boolean rich;
 
     private RandomRunsTest(int seed) {
         random = new Random(seed);
         wild = seed % 4 == 0;
+        rich = seed % 2 == 1;
     }
 
     private int below(int n) {
@@ -47,7 +50,17 @@ public final class RandomRunsTest {
         same(call, got ? 1 : 0, want ? 1 : 0);
     }
 
+    private String richText() {
+        String[] rows = {"01dc", "c01d", "d01", "d10c1", "0d1dc0", "01", "001d", "cd1c0", "dd01", "01d0c1d"};
+        return "length " + (4 + below(3)) + ";roles " + rows[below(rows.length)] + ";width " + (1 + below(3))
+            + ";least " + (2 + below(3)) + ";poly " + below(64) + ";stolen " + below(4) + ";"
+            + (one(3) ? "" : (one(2) ? "lag " : "drift ") + below(51) + ";") + (one(2) ? "" : "wrong 1 1;");
+    }
+
     private String text() {
+        if (rich) {
+            return richText();
+        }
         StringBuilder t = new StringBuilder();
         int n = one(10) ? 0 : 1 + below(6);
         if (!one(5)) {
@@ -163,6 +176,33 @@ public final class RandomRunsTest {
         }
     }
 
+    private void richAct() {
+        int behind = m.count(11) - m.count(12);
+        int seed = random.nextInt();
+        int n = 1 + below(8);
+        switch (below(10)) {
+            case 0: same("say(" + n + ")", x.say(n), m.say(n)); break;
+            case 1: n = below(256); same("say(" + n + ")", x.say(n), m.say(n)); break;
+            case 2: case 3: same("send(" + n + "," + seed + ")", x.send(n, seed), m.send(n, seed)); break;
+            case 4: case 5: case 6: {
+                int h = one(2) ? behind : Math.min(behind, 1 + below(150));
+                same("hear(" + h + ")", x.hear(h), m.hear(h));
+                break;
+            }
+            case 7:
+                for (int u = 1 + below(3); u > 0; u--) {
+                    same("undo()", x.undo(), m.undo());
+                }
+                askAll();
+                break;
+            case 8: n = below(3); same("image(" + n + ")", x.image(n), m.image(n)); break;
+            default:
+                n = below(3);
+                same("again(" + n + ")", x.again(n), m.again(n));
+                askAll();
+        }
+    }
+
     private void askAll() {
         for (int w = 0; w <= 18; w++) {
             same("receiver(" + w + ")", x.receiver(w), m.receiver(w));
@@ -173,8 +213,10 @@ public final class RandomRunsTest {
         for (int w : new int[] {0, 1, 2, 10, 11}) {
             same("frame(" + w + ")", x.frame(w), m.frame(w));
         }
-        same("signal(0)", x.signal(0), m.signal(0));
-        same("value(0)", x.value(0), m.value(0));
+        for (int k = 0; k < 8; k++) {
+            same("signal(" + k + ")", x.signal(k), m.signal(k));
+            same("value(" + k + ")", x.value(k), m.value(k));
+        }
     }
 
     private void ask() {
@@ -228,6 +270,8 @@ public final class RandomRunsTest {
         for (int c = 0; c < calls && Check.wrong() == 0; c++) {
             if (c == 0 ? !one(6) : one(90)) {
                 tell();
+            } else if (rich && !one(4)) {
+                richAct();
             } else if (one(3)) {
                 act();
             } else {
