@@ -24,6 +24,10 @@ final class Check {
         return wrong;
     }
 
+    static int asked() {
+        return asked;
+    }
+
     static void end(String name) {
         System.out.println(name + ": " + asked + " answers, " + wrong + " not as due");
         if (wrong != 0) {
@@ -41,15 +45,15 @@ final class Check {
         return eight;
     }
 
-    static void type(TrunkFramer x, String text) {
+    static void type(Framer x, String text) {
         for (int i = 0; i < text.length(); i += 8) {
             x.key(eight(text, i));
         }
     }
 
     /** A new object with a scheme. */
-    static TrunkFramer made(String text) {
-        TrunkFramer x = new TrunkFramer();
+    static Framer made(String text) {
+        Framer x = new Framer();
         type(x, text);
         if (x.scheme() == TrunkFramer.NONE) {
             due("scheme of " + text, -1, 0);
@@ -58,15 +62,40 @@ final class Check {
     }
 
     /** Bits come behind the line; other signs than 0 and 1 part them for the eye alone. */
-    static void append(TrunkFramer x, String bits) {
+    static void append(Framer x, String bits) {
+        int end = x.count(11);
         for (int i = 0; i < bits.length(); i++) {
             if (bits.charAt(i) == '0' || bits.charAt(i) == '1') {
-                x.put(x.count(11), bits.charAt(i) == '1');
+                end = x.put(end, bits.charAt(i) == '1');
             }
         }
     }
 
-    static String line(TrunkFramer x) {
+    /** Reads a text that has no fault. */
+    static void can(String text, int what, int count) {
+        Framer x = made(text);
+        due("fault of " + text, x.fault(false), 0);
+        due("its place in " + text, x.fault(true), Framer.NONE);
+        due("count(" + what + ") by " + text, x.count(what), count);
+    }
+
+    /** Reads a text that has one. */
+    static void fault(String text, int fault, int place) {
+        Framer x = new Framer();
+        type(x, text);
+        due("scheme of " + text, x.scheme(), Framer.NONE);
+        due("fault of " + text, x.fault(false), fault);
+        due("its place in " + text, x.fault(true), place);
+    }
+
+    /** The receiver's answers from what 0 on. */
+    static void receiver(String where, Framer x, int... want) {
+        for (int w = 0; w < want.length; w++) {
+            due(where + ": receiver(" + w + ")", x.receiver(w), want[w]);
+        }
+    }
+
+    static String line(Framer x) {
         StringBuilder b = new StringBuilder();
         for (int i = 0; i < x.count(11); i++) {
             b.append(x.bit(i));

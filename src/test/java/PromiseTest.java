@@ -65,14 +65,15 @@ public final class PromiseTest {
     }
 
     /** The receiver's answers from what 0 on. */
-    private static void receiver(String where, TrunkFramer x, int... want) {
+    private static void receiver(String where, Framer x, int... want) {
         for (int w = 0; w < want.length; w++) {
             due(where + ": receiver(" + w + ")", x.receiver(w), want[w]);
         }
     }
 
-    private static String state(TrunkFramer x) {
-        StringBuilder b = new StringBuilder(Check.line(x));
+    /** What there is, of the line its ends; within fewer calls than an object has. */
+    private static String state(Framer x) {
+        StringBuilder b = new StringBuilder(ends(x));
         for (int w = 0; w < 16; w++) {
             b.append(' ').append(x.count(w));
         }
@@ -83,12 +84,21 @@ public final class PromiseTest {
         return b.append(' ').append(x.frame(0)).append(' ').append(x.value(0)).toString();
     }
 
+    private static String ends(Framer x) {
+        int size = x.count(11);
+        StringBuilder b = new StringBuilder();
+        for (int i = 0; i < 16; i++) {
+            b.append(x.bit(i)).append(x.bit(size - 1 - i));
+        }
+        return b.append(' ').append(x.from(0, 7)).toString();
+    }
+
     private static void same(String call, String got, String want) {
         Check.due(call + " leaves " + got + " of " + want, got.equals(want), true);
     }
 
     private static void promise1() {
-        TrunkFramer x = new TrunkFramer();
+        Framer x = new Framer();
         int[] counts = {8, 6, 0, 7, 0, 4, 2, 4, 0, 1, 0, 0, 0, 0, 0, 0};
         for (int w = 0; w < counts.length; w++) {
             due("new: count(" + w + ")", x.count(w), counts[w]);
@@ -105,7 +115,7 @@ public final class PromiseTest {
     }
 
     private static void promise2() {
-        TrunkFramer x = new TrunkFramer();
+        Framer x = new Framer();
         due("key(0)", x.key(0L), 0);
         due("a zero first", x.key(0x0061626364656667L), 0);
         due("a zero within", x.key(0x2020200061626364L), 3);
@@ -127,7 +137,7 @@ public final class PromiseTest {
 
     private static void promise3() {
         String all = "length 24;roles 01cc d0\n1;poly 63;width 8;stolen 12;least 24;wrong 4 8;drift 50;";
-        TrunkFramer x = Check.made(all);
+        Framer x = Check.made(all);
         int[] counts = {24, 7, 63, 8, 12, 24, 4, 8, 50, 2, 2};
         for (int w = 0; w < counts.length; w++) {
             due(all + " count(" + w + ")", x.count(w), counts[w]);
@@ -151,7 +161,7 @@ public final class PromiseTest {
         for (int f = 0; f < first.length; f++) {
             due("as at first role(" + f + ")", x.role(f), first[f]);
         }
-        TrunkFramer y = Check.made(LINKED);
+        Framer y = Check.made(LINKED);
         Check.append(y, LINKED_BITS);
         y.say(9);
         y.hear(12);
@@ -166,7 +176,7 @@ public final class PromiseTest {
     }
 
     private static void promise3Stays() {
-        TrunkFramer x = Check.made(CHECKED);
+        Framer x = Check.made(CHECKED);
         x.say(1);
         x.send(3, 5);
         x.hear(20);
@@ -180,7 +190,7 @@ public final class PromiseTest {
         due("undo", x.undo(), 2);
         due("it undid hear", x.count(12), 0);
         due("the fault stays", x.fault(false), 2);
-        TrunkFramer y = Check.made(CHECKED);
+        Framer y = Check.made(CHECKED);
         y.send(1, 3);
         String c = "" + y.bit(8);
         y.scheme();
@@ -192,7 +202,7 @@ public final class PromiseTest {
     }
 
     private static void fault(String text, int fault, int place) {
-        TrunkFramer x = new TrunkFramer();
+        Framer x = new Framer();
         Check.type(x, text);
         Check.due("scheme of " + text, x.scheme() == NONE, fault != 0);
         due("fault of " + text, x.fault(false), fault);
@@ -233,7 +243,7 @@ public final class PromiseTest {
         fault("length 3;poly 64;lengt 4;", 1, 17);
         fault("length 3;poly 64;", 2, 7);
         fault("roles 0c;poly 64;", 2, 0);
-        TrunkFramer x = new TrunkFramer();
+        Framer x = new Framer();
         Check.type(x, "x");
         x.scheme();
         due("its fault", x.fault(false), 1);
@@ -276,7 +286,7 @@ public final class PromiseTest {
     }
 
     private static void promise5() {
-        TrunkFramer x = Check.made(LINKED);
+        Framer x = Check.made(LINKED);
         due("say(-1)", x.say(-1), NONE);
         due("say(256)", x.say(256), NONE);
         due("say(MIN)", x.say(MIN), NONE);
@@ -295,7 +305,7 @@ public final class PromiseTest {
     }
 
     private static void promise6() {
-        TrunkFramer x = Check.made("length 24;roles 0 1 0 1 0 1 0 1 0 1 0 1;");
+        Framer x = Check.made("length 24;roles 0 1 0 1 0 1 0 1 0 1 0 1;");
         due("send(0)", x.send(0, 1), NONE);
         due("send(-1)", x.send(-1, 1), NONE);
         due("send(9)", x.send(9, 1), NONE);
@@ -306,12 +316,12 @@ public final class PromiseTest {
         due("send(5)", x.send(5, 1), 3744);
         due("too many", x.send(1, 1), NONE);
         due("two acts", x.count(13), 2);
-        TrunkFramer y = Check.made("length 20;roles 0 1;");
+        Framer y = Check.made("length 20;roles 0 1;");
         for (int n = 320; n <= 3840; n += 320) {
             y.send(8, n);
         }
         due("exactly 4000", y.send(4, 1), 4000);
-        TrunkFramer z = Check.made("length 4;roles 1 0;");
+        Framer z = Check.made("length 4;roles 1 0;");
         z.send(2, -7);
         int seed = -7;
         for (int i = 0; i < 16; i++) {
@@ -328,7 +338,7 @@ public final class PromiseTest {
     }
 
     private static void promise6ChecksAndLink() {
-        TrunkFramer x = Check.made("length 4;roles 0 c 1 d c;poly 2;least 2;");
+        Framer x = Check.made("length 4;roles 0 c 1 d c;poly 2;least 2;");
         x.say(0x53);
         x.send(8, 4);
         due("the first c", x.bit(4), 0);
@@ -358,7 +368,7 @@ public final class PromiseTest {
     }
 
     private static void promise7() {
-        TrunkFramer x = Check.made(SMALL);
+        Framer x = Check.made(SMALL);
         Check.due("turn(0) of an empty line", x.turn(0), false);
         Check.append(x, "0101");
         x.hear(2);
@@ -375,7 +385,7 @@ public final class PromiseTest {
     }
 
     private static void promise8() {
-        TrunkFramer x = Check.made(SMALL);
+        Framer x = Check.made(SMALL);
         Check.append(x, "0110 1001");
         x.hear(2);
         due("heard", x.lose(1, 1), NONE);
@@ -392,24 +402,26 @@ public final class PromiseTest {
         due("lose(3, 2)", x.lose(3, 2), 6);
         same("two are lost", Check.line(x), "011001");
         due("lose(2, 4)", x.lose(2, 4), 2);
-        TrunkFramer y = new TrunkFramer();
+        Framer y = new Framer();
         y.send(8, 1);
         y.send(8, 1);
         due("501", y.lose(0, 501), NONE);
         due("500", y.lose(0, 500), 268);
-        TrunkFramer z = Check.made("length 20;roles 0 1;");
+        Framer z = Check.made("length 20;roles 0 1;");
         for (int n = 0; n < 12; n++) {
             z.send(8, n);
         }
         z.send(4, 1);
-        String ends = Check.line(z);
+        int first = z.bit(3499);
+        int last = z.bit(3999);
         due("of a full line", z.lose(3500, 499), 3501);
-        same("of a full line", Check.line(z), ends.substring(0, 3500) + ends.substring(3999));
+        due("what stood ahead of them", z.bit(3499), first);
+        due("what stood behind them", z.bit(3500), last);
         due("to its end", z.lose(3001, 500), 3001);
     }
 
     private static void promise9() {
-        TrunkFramer x = Check.made(SMALL);
+        Framer x = Check.made(SMALL);
         due("put(1)", x.put(1, true), NONE);
         due("put(-1)", x.put(-1, true), NONE);
         due("put(0)", x.put(0, true), 1);
@@ -423,7 +435,7 @@ public final class PromiseTest {
         due("put(MIN)", x.put(MIN, true), NONE);
         due("at the first not heard", x.put(2, false), 5);
         same("put behind what is heard", Check.line(x), "01010");
-        TrunkFramer y = Check.made("length 20;roles 0 1;");
+        Framer y = Check.made("length 20;roles 0 1;");
         for (int n = 0; n < 12; n++) {
             y.send(8, n);
         }
@@ -437,7 +449,7 @@ public final class PromiseTest {
     }
 
     private static void promise10() {
-        TrunkFramer x = Check.made(SMALL);
+        Framer x = Check.made(SMALL);
         due("an empty line", x.hear(1), NONE);
         Check.append(x, "01011");
         due("hear(0)", x.hear(0), NONE);
@@ -450,7 +462,7 @@ public final class PromiseTest {
         due("hear(4)", x.hear(4), NONE);
         due("hear(3)", x.hear(3), 5);
         due("hear(1)", x.hear(1), NONE);
-        TrunkFramer y = Check.made("length 20;roles 0 1;");
+        Framer y = Check.made("length 20;roles 0 1;");
         for (int n = 0; n < 12; n++) {
             y.send(8, n);
         }
@@ -460,7 +472,7 @@ public final class PromiseTest {
     }
 
     private static void promise11() {
-        TrunkFramer x = Check.made(LINKED);
+        Framer x = Check.made(LINKED);
         due("nothing to undo", x.undo(), NONE);
         Check.append(x, LINKED_BITS);
         String[] states = new String[8];
@@ -500,19 +512,22 @@ public final class PromiseTest {
         due("is sent to its end", x.count(15), 0);
     }
 
-    private static String withoutActs(TrunkFramer x) {
-        StringBuilder b = new StringBuilder(Check.line(x));
-        for (int w = 0; w < 16; w++) {
-            b.append(' ').append(w == 13 ? 0 : x.count(w));
+    private static String withoutActs(Framer x) {
+        StringBuilder b = new StringBuilder();
+        for (int i : new int[] {19, 20, 30, 31, 32, 50, 51}) {
+            b.append(x.bit(i));
         }
-        for (int w = 0; w < 18; w++) {
+        for (int w : new int[] {11, 12, 15}) {
+            b.append(' ').append(x.count(w));
+        }
+        for (int w : new int[] {0, 2, 6, 7, 10, 12, 15}) {
             b.append(' ').append(x.receiver(w));
         }
         return b.append(' ').append(x.frame(0)).append(' ').append(x.ahead(2, 8, 9)).toString();
     }
 
     private static void promise11Stays() {
-        TrunkFramer x = Check.made(CHECKED);
+        Framer x = Check.made(CHECKED);
         x.send(1, 2);
         int checks = x.checks(0);
         x.send(1, 3);
@@ -531,7 +546,7 @@ public final class PromiseTest {
     }
 
     private static void promise12() {
-        TrunkFramer x = Check.made("length 9;width 3;wrong 1 3;");
+        Framer x = Check.made("length 9;width 3;wrong 1 3;");
         due("channels as many as there is room for", x.count(9), 2);
         due("count(16)", x.count(16), -1000);
         due("count(-1)", x.count(-1), -1000);
@@ -551,7 +566,7 @@ public final class PromiseTest {
     }
 
     private static void promise13() {
-        TrunkFramer x = Check.made("roles d10c;");
+        Framer x = Check.made("roles d10c;");
         int[] roles = {3, 1, 0, 2};
         for (int f = 0; f < 4; f++) {
             due("role(" + f + ")", x.role(f), roles[f]);
@@ -568,7 +583,7 @@ public final class PromiseTest {
     }
 
     private static void promise14() {
-        TrunkFramer x = Check.made(SMALL);
+        Framer x = Check.made(SMALL);
         due("bit(0) of none", x.bit(0), NONE);
         Check.append(x, "10");
         due("bit(0)", x.bit(0), 1);
@@ -580,7 +595,7 @@ public final class PromiseTest {
     }
 
     private static void promise15() {
-        TrunkFramer x = Check.made("length 4;roles 0 1 c c;poly 3;least 2;");
+        Framer x = Check.made("length 4;roles 0 1 c c;poly 3;least 2;");
         Check.append(x, "0000 0000 0000 000");
         due("not so many", x.checks(0), NONE);
         Check.append(x, "00");
@@ -595,24 +610,24 @@ public final class PromiseTest {
         due("c are taken for 1", x.checks(0), 2);
         x.turn(15);
         due("the last bit", x.checks(0), 1);
-        TrunkFramer y = Check.made("length 4;roles 0 1 c c;poly 63;least 2;");
+        Framer y = Check.made("length 4;roles 0 1 c c;poly 63;least 2;");
         Check.append(y, "0000 0000 0000 0000");
         due("poly's lowest two", y.checks(0), 2);
-        TrunkFramer w = Check.made("length 4;roles c 0 1;poly 1;least 2;");
+        Framer w = Check.made("length 4;roles c 0 1;poly 1;least 2;");
         Check.append(w, "0000 0000 0000");
         due("c first", w.checks(0), 1);
         w.turn(0);
         due("c first, turned", w.checks(0), 1);
         w.turn(4);
         due("another turned", w.checks(0), 0);
-        TrunkFramer z = Check.made(SMALL);
+        Framer z = Check.made(SMALL);
         Check.append(z, "1111 1111");
         due("no checks", z.checks(0), 0);
         due("no checks of none", z.checks(1), NONE);
     }
 
     private static void promise16Hunts() {
-        TrunkFramer x = Check.made(SMALL);
+        Framer x = Check.made(SMALL);
         Check.append(x, SMALL_BITS);
         int[] left = {7, 6, 5, 4, 4, 3, 2};
         for (int i = 0; i < 7; i++) {
@@ -625,13 +640,13 @@ public final class PromiseTest {
         due("receiver(-1)", x.receiver(-1), NONE);
         due("receiver(MAX)", x.receiver(MAX), NONE);
         due("receiver(MIN)", x.receiver(MIN), NONE);
-        TrunkFramer y = Check.made("length 4;roles 0 1;least 3;");
+        Framer y = Check.made("length 4;roles 0 1;least 3;");
         Check.append(y, SMALL_BITS + "0");
         y.hear(8);
         receiver("one left, too few heard by it", y, 0, 1, 1, 0, 0, 0, NONE, 8);
         y.hear(1);
         receiver("three heard", y, 2, 1, 1, 0, 1, 0, 1, 0);
-        TrunkFramer z = Check.made(SMALL);
+        Framer z = Check.made(SMALL);
         Check.append(z, "1111 1111 0");
         z.hear(7);
         receiver("ones", z, 0, 1, 1);
@@ -642,7 +657,7 @@ public final class PromiseTest {
     }
 
     private static void promise16Verifies() {
-        TrunkFramer x = Check.made(CHECKED);
+        Framer x = Check.made(CHECKED);
         Check.append(x, CHECKED_BITS + CHECKED_BITS + CHECKED_BITS);
         x.hear(12);
         receiver("verifies", x, 1, 1, 1, 0, 0, 0, 0, 0, 0);
@@ -656,14 +671,14 @@ public final class PromiseTest {
         x.put(35, true);
         x.hear(1);
         receiver("a bit that is no check of its own", x, 2, 1, 1, 0, 1);
-        TrunkFramer y = Check.made(CHECKED);
+        Framer y = Check.made(CHECKED);
         Check.append(y, CHECKED_BITS + CHECKED_BITS + CHECKED_BITS + "0");
         y.turn(32);
         y.hear(36);
         receiver("a mimic", y, 0, 12, 2, 1, 0, 0, NONE, 0, 0, 0);
         y.hear(1);
         due("it hunts from the next", y.receiver(7), 1);
-        TrunkFramer z = Check.made(CHECKED);
+        Framer z = Check.made(CHECKED);
         Check.append(z, CHECKED_BITS + CHECKED_BITS + "0");
         z.turn(16);
         z.hear(16);
@@ -673,7 +688,7 @@ public final class PromiseTest {
     }
 
     private static void promise16Lost() {
-        TrunkFramer x = Check.made("length 4;roles 0 1;least 2;wrong 2 3;");
+        Framer x = Check.made("length 4;roles 0 1;least 2;wrong 2 3;");
         Check.append(x, SMALL_BITS + "1000 1000 0000 0000 1");
         x.hear(8);
         x.hear(1);
@@ -687,7 +702,7 @@ public final class PromiseTest {
         x.hear(3);
         x.hear(1);
         receiver("two of three", x, 0, 8, 2, 0, 1, 1, NONE, 0, 0);
-        TrunkFramer y = Check.made("length 4;roles 0 1;least 2;wrong 1 1;");
+        Framer y = Check.made("length 4;roles 0 1;least 2;wrong 1 1;");
         Check.append(y, SMALL_BITS + "1" + SMALL_BITS + "1");
         y.hear(9);
         receiver("one of one", y, 0, 8, 2, 0, 1, 1, NONE, 0, 0);
@@ -698,7 +713,7 @@ public final class PromiseTest {
     }
 
     private static void promise16Store() {
-        TrunkFramer x = Check.made(SMALL + "drift 50;");
+        Framer x = Check.made(SMALL + "drift 50;");
         Check.append(x, SMALL_BITS + SMALL_BITS);
         x.hear(3);
         due("clock", x.receiver(15), 3150);
@@ -710,7 +725,7 @@ public final class PromiseTest {
         due("ahead of the third", x.receiver(15), 3550);
         x.hear(1);
         receiver("what it brings comes first", x, 2, 1, 1, 0, 1, 0, 4, 4, 0, 0, 1, 0, 1, 0, 0, 600);
-        TrunkFramer fast = Check.made("length 4;roles 0 1;least 2;drift 50;");
+        Framer fast = Check.made("length 4;roles 0 1;least 2;drift 50;");
         Check.append(fast, SMALL_BITS);
         for (int i = 0; i < 10; i++) {
             Check.append(fast, SMALL_BITS);
@@ -718,7 +733,7 @@ public final class PromiseTest {
         fast.hear(88);
         // 88 * 1050 = 23 * 4000 + 400: 23 reads, the first two while nothing had come.
         receiver("the other clock is fast", fast, 2, 1, 1, 0, 1, 0, 0, 80, 0, 0, 20, 0, 20, 1, 0, 400);
-        TrunkFramer slow = Check.made("length 4;roles 0 1;least 2;lag 50;");
+        Framer slow = Check.made("length 4;roles 0 1;least 2;lag 50;");
         for (int i = 0; i < 46; i++) {
             Check.append(slow, SMALL_BITS);
         }
@@ -732,7 +747,7 @@ public final class PromiseTest {
     }
 
     private static void promise16Link() {
-        TrunkFramer x = Check.made(LINKED);
+        Framer x = Check.made(LINKED);
         Check.append(x, LINKED_BITS);
         x.hear(12);
         due("locked", x.receiver(0), 2);
@@ -749,7 +764,7 @@ public final class PromiseTest {
     }
 
     /** Superframes with these bits of d come and are heard. */
-    private static void link(TrunkFramer x, String bits) {
+    private static void link(Framer x, String bits) {
         for (char b : bits.toCharArray()) {
             if (b != ' ') {
                 Check.append(x, "0000 1000 " + b + "000");
@@ -759,7 +774,7 @@ public final class PromiseTest {
     }
 
     private static void promise16BadChecks() {
-        TrunkFramer x = Check.made("length 4;roles 0 1 c c c;poly 3;least 2;");
+        Framer x = Check.made("length 4;roles 0 1 c c c;poly 3;least 2;");
         Check.append(x, "0000 1000 0000 0000 0000");
         x.hear(20);
         for (int n = 0; n < 3 && x.receiver(0) != 1; n++) {
@@ -790,7 +805,7 @@ public final class PromiseTest {
     }
 
     private static void promise17() {
-        TrunkFramer x = Check.made(SMALL);
+        Framer x = Check.made(SMALL);
         due("candidate(7)", x.candidate(7), 7);
         due("candidate(8)", x.candidate(8), NONE);
         due("candidate(-1)", x.candidate(-1), NONE);
@@ -808,7 +823,7 @@ public final class PromiseTest {
     }
 
     private static void promise18() {
-        TrunkFramer x = Check.made("length 8;roles 0 1;width 3;least 2;");
+        Framer x = Check.made("length 8;roles 0 1;width 3;least 2;");
         Check.append(x, "00000000 10000000 0101 1101 10111000");
         x.hear(23);
         due("none was read", x.frame(0), NONE);
@@ -838,7 +853,7 @@ public final class PromiseTest {
 
     private static void promise19() {
         String told = "length 8;roles 0 1;width 3;least 2;";
-        TrunkFramer x = Check.made(told + "stolen 1;");
+        Framer x = Check.made(told + "stolen 1;");
         due("none was read", x.signal(0), NONE);
         Check.append(x, "00000000 10000000 01011101 10000010 00010000 10000010");
         x.hear(24);
@@ -853,17 +868,17 @@ public final class PromiseTest {
             due("signal(MIN)", x.signal(MIN), NONE);
             x.hear(8);
         }
-        TrunkFramer y = Check.made(told + "stolen 2;");
+        Framer y = Check.made(told + "stolen 2;");
         Check.append(y, "00000000 10000000 01111111 10000000");
         y.hear(24);
         due("no frame with signals was read", y.signal(0), NONE);
         y.hear(8);
         due("the second has them", y.signal(0), 0);
-        TrunkFramer z = Check.made(told + "stolen 3;");
+        Framer z = Check.made(told + "stolen 3;");
         Check.append(z, "00000000 10000000 01111111 10000000 01111111");
         z.hear(40);
         due("no frame is a third one", z.signal(0), NONE);
-        TrunkFramer w = Check.made(told + "stolen 1;drift 50;");
+        Framer w = Check.made(told + "stolen 1;drift 50;");
         Check.append(w, "00000000 10000000 01011101 10000010 00010000 10000010 00010000 10000010");
         w.hear(64);
         // Six frames came, of five that were read the latest three tell 1, 0, 1.
@@ -872,7 +887,7 @@ public final class PromiseTest {
     }
 
     private static void promise20() {
-        TrunkFramer x = Check.made(LINKED);
+        Framer x = Check.made(LINKED);
         due("none", x.value(0), NONE);
         Check.append(x, LINKED_BITS);
         x.hear(12);
@@ -901,7 +916,7 @@ public final class PromiseTest {
     }
 
     private static void promise21() {
-        TrunkFramer x = Check.made(LINKED);
+        Framer x = Check.made(LINKED);
         Check.append(x, LINKED_BITS);
         for (int v = 0; v < 3; v++) {
             x.say(v);
@@ -925,7 +940,7 @@ public final class PromiseTest {
         for (int w = 0; w < 18; w++) {
             due("ahead(8, 44, " + w + ")", got[w], x.receiver(w));
         }
-        TrunkFramer y = Check.made("length 20;roles 0 1;");
+        Framer y = Check.made("length 20;roles 0 1;");
         for (int n = 0; n < 12; n++) {
             y.send(8, n);
         }
@@ -937,7 +952,7 @@ public final class PromiseTest {
     }
 
     private static void promise22() {
-        TrunkFramer x = Check.made(SMALL);
+        Framer x = Check.made(SMALL);
         due("an empty line", x.struck(0, 0), NONE);
         Check.append(x, SMALL_BITS);
         int[] first = {NONE, 3, 2, 1, 0, 7, 6, 5};
@@ -959,7 +974,7 @@ public final class PromiseTest {
     }
 
     private static void promise23and24() {
-        TrunkFramer x = Check.made(SMALL);
+        Framer x = Check.made(SMALL);
         Check.append(x, SMALL_BITS + SMALL_BITS + "0");
         due("locks(0)", x.locks(0), 8);
         due("locks(4)", x.locks(4), 8);
@@ -982,7 +997,7 @@ public final class PromiseTest {
         due("from(MAX, 0)", x.from(MAX, 0), NONE);
         due("from(MIN, 0)", x.from(MIN, 0), NONE);
         due("the receiver is as it was", x.receiver(7), 0);
-        TrunkFramer y = Check.made(CHECKED);
+        Framer y = Check.made(CHECKED);
         Check.append(y, CHECKED_BITS + CHECKED_BITS + CHECKED_BITS);
         due("it verifies first", y.locks(0), 36);
         due("from 12 on too few", y.locks(12), NONE);
@@ -993,7 +1008,7 @@ public final class PromiseTest {
     }
 
     private static void promise25and26() {
-        TrunkFramer x = Check.made(SMALL);
+        Framer x = Check.made(SMALL);
         due("all fit", x.fits(0, NONE), 8);
         due("fits(0, 7)", x.fits(0, 7), 7);
         due("fits(0, 8)", x.fits(0, 8), NONE);
@@ -1021,7 +1036,7 @@ public final class PromiseTest {
         due("none fits", x.fits(9, NONE), 0);
         due("the 0th of none", x.fits(9, 0), NONE);
         due("least stays", x.least(9), 8);
-        TrunkFramer y = Check.made("length 4;roles 0 0;");
+        Framer y = Check.made("length 4;roles 0 0;");
         Check.append(y, "1110");
         due("two at once", y.fits(3, NONE), 2);
         due("two fit", y.least(4), NONE);
@@ -1033,7 +1048,7 @@ public final class PromiseTest {
     }
 
     private static void promise27() {
-        TrunkFramer x = Check.made("length 4;roles 0 1;least 2;wrong 2 4;");
+        Framer x = Check.made("length 4;roles 0 1;least 2;wrong 2 4;");
         due("an empty line", x.weak(), NONE);
         for (int i = 0; i < 6; i++) {
             Check.append(x, SMALL_BITS);
@@ -1049,7 +1064,7 @@ public final class PromiseTest {
         x.turn(20);
         x.turn(16);
         due("it would be lost at 16: the least that lets it be", x.weak(), 13);
-        TrunkFramer y = Check.made("length 4;roles 0 1;least 2;wrong 1 1;");
+        Framer y = Check.made("length 4;roles 0 1;least 2;wrong 1 1;");
         Check.append(y, SMALL_BITS + SMALL_BITS);
         due("it is not locked, but will be", y.weak(), 8);
         y.hear(9);
@@ -1060,11 +1075,11 @@ public final class PromiseTest {
 
     private static void promise27Edges() {
         int start = 288 * 9;
-        TrunkFramer x = wide(start - 40, start + 96);
+        Framer x = wide(start - 40, start + 96);
         due("41 behind", x.weak(), NONE);
         x.hear(1);
         due("40 behind", x.weak(), start);
-        TrunkFramer y = wide(start - 16, start + 384);
+        Framer y = wide(start - 16, start + 384);
         due("lost by the 401st", y.weak(), NONE);
         y.hear(1);
         due("lost by the 400th", y.weak(), start);
@@ -1073,8 +1088,8 @@ public final class PromiseTest {
         same("weak", state(y), before);
     }
 
-    private static TrunkFramer wide(int heard, int turned) {
-        TrunkFramer x = Check.made(WIDE);
+    private static Framer wide(int heard, int turned) {
+        Framer x = Check.made(WIDE);
         x.send(8, 11);
         x.send(5, 12);
         x.hear(heard);
@@ -1084,7 +1099,7 @@ public final class PromiseTest {
     }
 
     private static void promise28and29() {
-        TrunkFramer x = Check.made(LINKED);
+        Framer x = Check.made(LINKED);
         Check.due("again(0) of none", x.again(0), false);
         for (int k : new int[] {-1, 3, MAX, MIN}) {
             Check.due("image(" + k + ")", x.image(k), false);
@@ -1123,18 +1138,18 @@ public final class PromiseTest {
     }
 
     /** What is read of the store, bit by bit. */
-    private static String reads(TrunkFramer x, int bits) {
+    private static String reads(Framer x, int bits) {
         StringBuilder b = new StringBuilder();
         for (int n = 0; n < bits; n++) {
             x.hear(1);
-            b.append(x.frame(0)).append(' ').append(x.frame(1)).append(' ').append(x.frame(10)).append(' ');
-            b.append(x.signal(0)).append(' ').append(x.receiver(11)).append(' ');
+            b.append(x.frame(0)).append(' ').append(x.frame(10)).append(' ').append(x.signal(0)).append(' ');
+            b.append(x.receiver(11)).append(' ');
         }
         return b.toString();
     }
 
     private static void promise28and29Store() {
-        TrunkFramer x = Check.made("length 4;roles 0 1;least 2;lag 50;width 3;stolen 2;");
+        Framer x = Check.made("length 4;roles 0 1;least 2;lag 50;width 3;stolen 2;");
         Check.append(x, SMALL_BITS);
         for (int n = 0; n < 5; n++) {
             x.send(8, n);
@@ -1143,10 +1158,8 @@ public final class PromiseTest {
         due("two in the store", x.receiver(14), 2);
         x.image(1);
         String first = reads(x, 21);
-        String second = reads(x, 80);
         x.again(1);
         same("again: the store", reads(x, 21), first);
-        same("again: the store later", reads(x, 80), second);
         x.again(1);
         x.hear(60);
         x.undo();
@@ -1154,7 +1167,7 @@ public final class PromiseTest {
     }
 
     private static void promise28and29Checks() {
-        TrunkFramer x = Check.made(CHECKED);
+        Framer x = Check.made(CHECKED);
         Check.append(x, CHECKED_BITS + CHECKED_BITS + CHECKED_BITS);
         x.turn(32);
         x.hear(35);

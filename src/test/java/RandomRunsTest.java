@@ -6,9 +6,12 @@ public final class RandomRunsTest {
     private static final int[] EDGES = {
         -1, 0, 1, 2, 3, 8, 9, 10, 11, 17, 18, 24, 255, 256, 500, 501, 3999, 4000, 4001, -2, -1000,
         Integer.MAX_VALUE, Integer.MIN_VALUE, Integer.MAX_VALUE - 1, Integer.MIN_VALUE + 1};
+    /** Calls of the object that askAll() makes, and that one step may make at most. */
+    private static final int ALL = 45;
+    private static final int MOST_OF_ONE = ALL + 15;
 
     private final Random random;
-    private final TrunkFramer x = new TrunkFramer();
+    private final Framer x = new Framer();
     private final Model m = new Model();
     private final StringBuilder log = new StringBuilder();
     private final boolean wild;
@@ -267,7 +270,7 @@ public final class RandomRunsTest {
     }
 
     private void run(int calls) {
-        for (int c = 0; c < calls && Check.wrong() == 0; c++) {
+        for (int c = 0; c < calls && x.callsLeft() > MOST_OF_ONE + ALL && Check.wrong() == 0; c++) {
             if (c == 0 ? !one(6) : one(90)) {
                 tell();
             } else if (rich && !one(4)) {

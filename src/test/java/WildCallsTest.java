@@ -4,6 +4,9 @@ import java.util.Random;
 /** Arguments of any kind in any state: nothing but role()'s own exception ever comes out. */
 public final class WildCallsTest {
     private static final int[] EDGES = {0, 1, -1, 2, 8, 255, 256, 500, 4000, Integer.MAX_VALUE, Integer.MIN_VALUE};
+    /** As many calls of the object as one drawn call may take (a text comes eight by eight bytes). */
+    private static final int MOST_OF_ONE = 14;
+    private static final int LAST = 3;
 
     private WildCallsTest() {
     }
@@ -24,7 +27,7 @@ public final class WildCallsTest {
         return told[random.nextInt(told.length)];
     }
 
-    private static void call(TrunkFramer x, Random random) {
+    private static void call(Framer x, Random random) {
         int a = any(random);
         int b = any(random);
         int c = any(random);
@@ -75,8 +78,8 @@ public final class WildCallsTest {
     public static void main(String[] args) {
         for (int seed = 0; seed < 300; seed++) {
             Random random = new Random(seed);
-            TrunkFramer x = new TrunkFramer();
-            for (int n = 0; n < 512; n++) {
+            Framer x = new Framer();
+            while (x.callsLeft() > MOST_OF_ONE + LAST) {
                 call(x, random);
             }
             Check.due("heard are bits of the line", x.count(12) <= x.count(11) && x.count(11) <= 4000, true);
