@@ -73,17 +73,16 @@ final class Check {
 
     /** Reads a text that has no fault. */
     static void can(String text, int what, int count) {
+        fault(text, 0, Framer.NONE);
         Framer x = made(text);
-        due("fault of " + text, x.fault(false), 0);
-        due("its place in " + text, x.fault(true), Framer.NONE);
         due("count(" + what + ") by " + text, x.count(what), count);
     }
 
-    /** Reads a text that has one. */
+    /** Reads a text that has this fault, or none, which is 0. */
     static void fault(String text, int fault, int place) {
         Framer x = new Framer();
         type(x, text);
-        due("scheme of " + text, x.scheme(), Framer.NONE);
+        due("scheme of " + text + " is NONE", x.scheme() == Framer.NONE, fault != 0);
         due("fault of " + text, x.fault(false), fault);
         due("its place in " + text, x.fault(true), place);
     }

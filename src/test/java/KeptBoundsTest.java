@@ -50,6 +50,17 @@ public final class KeptBoundsTest {
         return b.append(' ').append(x.fault(true)).toString();
     }
 
+    @Says(at = "What it is", value = "An object is used for at most 512 calls after it has been made")
+    static void theLastCall() {
+        Framer x = Check.made("length 4;roles 0 1;");
+        int told = Framer.MOST_CALLS - x.callsLeft();
+        for (int n = 1; n < Framer.MOST_CALLS - told; n++) {
+            Check.due("put", x.put(0, n % 2 == 0), n);
+        }
+        Check.due("no call but one is left", x.callsLeft(), 1);
+        Check.due("the last call", x.hear(400), 400);
+    }
+
     // ---- term 4
 
     @Says(at = "T4", value = "ACTS that can be UNDONE, the latest 6: say(), send(), turn(), lose(), put(), hear()")
@@ -245,19 +256,30 @@ public final class KeptBoundsTest {
         x.hear(50);
         undone(x, 10, 60);
         undone(x, 10, 38);
-        Framer taken = Scenes.ten(1, 2, 3);
-        taken.turn(48 + 40);
-        taken.hear(70);
-        undone(taken, 19, 50);
-        undone(taken, 48, 80);
-        Framer slow = Scenes.slow();
-        slow.hear(143);
-        undone(slow, 1, 30);
-        undone(slow, 1, 17);
-        Framer fast = Scenes.fast();
-        fast.hear(22);
-        undone(fast, 1, 60);
-        undone(fast, 19, 90);
+        Framer spoilt = Scenes.ten(0xC1, 0xE5, 0x9A);
+        spoilt.turn(48 + 40);
+        spoilt.hear(70);
+        undone(spoilt, 19, 50);
+        Framer taken = Scenes.ten(0xC1, 0xE5, 0x9A);
+        taken.hear(116);
+        undone(taken, 21, 70);
+        undone(taken, 5, 55);
+    }
+
+    @Says(at = "P11", value = "The latest ACT is UNDONE")
+    static void undoOfTheStore() {
+        for (int many = 19; many < 57; many += 5) {
+            Framer slow = Scenes.slow();
+            slow.hear(138);
+            undone(slow, 1, many);
+            slow.hear(4);
+            undone(slow, 1, many);
+            undone(slow, 5, many);
+            Framer fast = Scenes.fast();
+            fast.hear(22);
+            undone(fast, 1, many);
+            undone(fast, 19, many);
+        }
     }
 
     @Says(at = "P11", value = "The latest ACT is UNDONE")

@@ -140,13 +140,19 @@ public final class LineBoundsTest {
     @Says(at = "T2", value = "of c the next of the CHECKS of the SUPERFRAME that was sent last")
     static void checksOfTheLast() {
         Framer x = Check.made("length 4;roles 0 c 1 c c;poly 5;");
-        x.send(3, 19);
+        x.send(3, 20);
         for (int s = 1; s < 3; s++) {
             int checks = x.checks(20 * (s - 1));
             int told = x.bit(20 * s + 4) << 2 | x.bit(20 * s + 12) << 1 | x.bit(20 * s + 16);
             Check.due("c of " + s, told, checks);
         }
         int last = x.checks(40);
+        Check.due("they are not 0", last != 0, true);
+        x.turn(59);
+        Check.due("turned over they are others", x.checks(40) != last, true);
+        x.send(1, 4);
+        Check.due("c of what was sent, though it is turned over", x.bit(64) << 2 | x.bit(72) << 1 | x.bit(76), last);
+        x.undo();
         x.lose(0, 60);
         x.send(1, 4);
         Check.due("c of what was sent, though it is lost", x.bit(4) << 2 | x.bit(12) << 1 | x.bit(16), last);

@@ -64,13 +64,6 @@ public final class PromiseTest {
         Check.due(call, got, want);
     }
 
-    /** The receiver's answers from what 0 on. */
-    private static void receiver(String where, Framer x, int... want) {
-        for (int w = 0; w < want.length; w++) {
-            due(where + ": receiver(" + w + ")", x.receiver(w), want[w]);
-        }
-    }
-
     /** What there is, of the line its ends; within fewer calls than an object has. */
     private static String state(Framer x) {
         StringBuilder b = new StringBuilder(ends(x));
@@ -93,10 +86,6 @@ public final class PromiseTest {
         return b.append(' ').append(x.from(0, 7)).toString();
     }
 
-    private static void same(String call, String got, String want) {
-        Check.due(call + " leaves " + got + " of " + want, got.equals(want), true);
-    }
-
     private static void promise1() {
         Framer x = new Framer();
         int[] counts = {8, 6, 0, 7, 0, 4, 2, 4, 0, 1, 0, 0, 0, 0, 0, 0};
@@ -107,7 +96,7 @@ public final class PromiseTest {
         for (int f = 0; f < roles.length; f++) {
             due("new: role(" + f + ")", x.role(f), roles[f]);
         }
-        receiver("new", x, 0, 48, 1, 0, 0, 0, NONE, 0, 0, 0, 0, 0, 0, 0, 0, 0, 0, 0);
+        Check.receiver("new", x, 0, 48, 1, 0, 0, 0, NONE, 0, 0, 0, 0, 0, 0, 0, 0, 0, 0, 0);
         due("NONE", TrunkFramer.NONE, -1);
         due("new: fault", x.fault(false), 0);
         due("new: its place", x.fault(true), NONE);
@@ -168,7 +157,7 @@ public final class PromiseTest {
         due("locked", y.receiver(0), 2);
         Check.type(y, LINKED);
         due("told anew", y.scheme(), 12);
-        receiver("told anew", y, 0, 12, 1, 0, 0, 0, NONE, 0, 0, 0, 0, 0, 0, 0, 0, 0, 0, 0);
+        Check.receiver("told anew", y, 0, 12, 1, 0, 0, 0, NONE, 0, 0, 0, 0, 0, 0, 0, 0, 0, 0, 0);
         due("the line is empty", y.count(11), 0);
         due("nothing heard", y.count(12), 0);
         due("nothing to undo", y.undo(), NONE);
@@ -198,51 +187,43 @@ public final class PromiseTest {
         y.scheme();
         y.send(1, 3);
         due("checks of none sent since are 0", y.bit(8), 0);
-        same("the first superframe's c", c, "0");
-    }
-
-    private static void fault(String text, int fault, int place) {
-        Framer x = new Framer();
-        Check.type(x, text);
-        Check.due("scheme of " + text, x.scheme() == NONE, fault != 0);
-        due("fault of " + text, x.fault(false), fault);
-        due("its place in " + text, x.fault(true), place);
+        Keep.same("the first superframe's c", c, "0");
     }
 
     private static void promise4() {
-        fault("", 0, NONE);
-        fault(" \n ", 0, NONE);
-        fault("length8;roles0 1cd;", 0, NONE);
-        fault(";", 1, 0);
-        fault("8;", 1, 0);
-        fault("lengths 8;", 1, 0);
-        fault("Length 8;", 1, 0);
-        fault(" \tlength 8;", 1, 1);
-        fault("length", 1, 6);
-        fault("length \n", 1, 8);
-        fault("length ;", 1, 7);
-        fault("length x;", 1, 7);
-        fault("length 8", 1, 8);
-        fault("length 8 8;", 1, 9);
-        fault("length 8;;", 1, 9);
-        fault("length 8;poly", 1, 13);
-        fault("length 8,poly 1;", 1, 8);
-        fault("poly 123456789012;", 2, 5);
-        fault("poly 1234567890123;", 1, 5);
-        fault("poly 1 1234567890123;", 1, 7);
-        fault("wrong 2;", 1, 7);
-        fault("wrong 2 4 4;", 1, 10);
-        fault("wrong 24;", 1, 8);
-        fault("roles;", 1, 5);
-        fault("roles ", 1, 6);
-        fault("roles 01", 1, 8);
-        fault("roles 01 012;", 1, 9);
-        fault("roles 01 cx;", 1, 9);
-        fault("roles 01 length 8;", 1, 9);
-        fault("roles 01 0000000000000;", 1, 9);
-        fault("length 3;poly 64;lengt 4;", 1, 17);
-        fault("length 3;poly 64;", 2, 7);
-        fault("roles 0c;poly 64;", 2, 0);
+        Check.fault("", 0, NONE);
+        Check.fault(" \n ", 0, NONE);
+        Check.fault("length8;roles0 1cd;", 0, NONE);
+        Check.fault(";", 1, 0);
+        Check.fault("8;", 1, 0);
+        Check.fault("lengths 8;", 1, 0);
+        Check.fault("Length 8;", 1, 0);
+        Check.fault(" \tlength 8;", 1, 1);
+        Check.fault("length", 1, 6);
+        Check.fault("length \n", 1, 8);
+        Check.fault("length ;", 1, 7);
+        Check.fault("length x;", 1, 7);
+        Check.fault("length 8", 1, 8);
+        Check.fault("length 8 8;", 1, 9);
+        Check.fault("length 8;;", 1, 9);
+        Check.fault("length 8;poly", 1, 13);
+        Check.fault("length 8,poly 1;", 1, 8);
+        Check.fault("poly 123456789012;", 2, 5);
+        Check.fault("poly 1234567890123;", 1, 5);
+        Check.fault("poly 1 1234567890123;", 1, 7);
+        Check.fault("wrong 2;", 1, 7);
+        Check.fault("wrong 2 4 4;", 1, 10);
+        Check.fault("wrong 24;", 1, 8);
+        Check.fault("roles;", 1, 5);
+        Check.fault("roles ", 1, 6);
+        Check.fault("roles 01", 1, 8);
+        Check.fault("roles 01 012;", 1, 9);
+        Check.fault("roles 01 cx;", 1, 9);
+        Check.fault("roles 01 length 8;", 1, 9);
+        Check.fault("roles 01 0000000000000;", 1, 9);
+        Check.fault("length 3;poly 64;lengt 4;", 1, 17);
+        Check.fault("length 3;poly 64;", 2, 7);
+        Check.fault("roles 0c;poly 64;", 2, 0);
         Framer x = new Framer();
         Check.type(x, "x");
         x.scheme();
@@ -257,32 +238,32 @@ public final class PromiseTest {
         int[] lowest = {4, 0, 1, 0, 2, 0, 0};
         int[] highest = {24, 63, 8, 12, 24, 50, 50};
         for (int i = 0; i < names.length; i++) {
-            fault(names[i] + " " + lowest[i] + ";", 0, NONE);
-            fault(names[i] + " " + highest[i] + ";", 0, NONE);
-            fault(names[i] + " " + (highest[i] + 1) + ";", 2, names[i].length() + 1);
-            fault(names[i] + " 0004;", 2, names[i].length() + 1);
-            fault(names[i] + " 004;", 0, NONE);
+            Check.fault(names[i] + " " + lowest[i] + ";", 0, NONE);
+            Check.fault(names[i] + " " + highest[i] + ";", 0, NONE);
+            Check.fault(names[i] + " " + (highest[i] + 1) + ";", 2, names[i].length() + 1);
+            Check.fault(names[i] + " 0004;", 2, names[i].length() + 1);
+            Check.fault(names[i] + " 004;", 0, NONE);
             if (lowest[i] > 0) {
-                fault(names[i] + " " + (lowest[i] - 1) + ";", 2, names[i].length() + 1);
+                Check.fault(names[i] + " " + (lowest[i] - 1) + ";", 2, names[i].length() + 1);
             }
         }
-        fault("wrong 0 4;", 2, 6);
-        fault("wrong 5 8;", 2, 6);
-        fault("wrong 1 1;", 0, NONE);
-        fault("wrong 4 4;", 0, NONE);
-        fault("wrong 4 8;", 0, NONE);
-        fault("wrong 4 3;", 2, 8);
-        fault("wrong 4 9;", 2, 8);
-        fault("wrong 1 0008;", 2, 8);
-        fault("roles 0;", 2, 0);
-        fault(" roles 0 ccc ddd;", 2, 1);
-        fault("roles 01 dddddddddd;", 0, NONE);
-        fault("roles 01 ddddddddddd;", 2, 0);
-        fault("roles 01 cccccc;", 0, NONE);
-        fault("roles 01 ccccccc;", 2, 0);
-        fault("roles 00;", 0, NONE);
-        fault("roles cccdddc;", 2, 0);
-        fault("length 3;length 8;", 2, 7);
+        Check.fault("wrong 0 4;", 2, 6);
+        Check.fault("wrong 5 8;", 2, 6);
+        Check.fault("wrong 1 1;", 0, NONE);
+        Check.fault("wrong 4 4;", 0, NONE);
+        Check.fault("wrong 4 8;", 0, NONE);
+        Check.fault("wrong 4 3;", 2, 8);
+        Check.fault("wrong 4 9;", 2, 8);
+        Check.fault("wrong 1 0008;", 2, 8);
+        Check.fault("roles 0;", 2, 0);
+        Check.fault(" roles 0 ccc ddd;", 2, 1);
+        Check.fault("roles 01 dddddddddd;", 0, NONE);
+        Check.fault("roles 01 ddddddddddd;", 2, 0);
+        Check.fault("roles 01 cccccc;", 0, NONE);
+        Check.fault("roles 01 ccccccc;", 2, 0);
+        Check.fault("roles 00;", 0, NONE);
+        Check.fault("roles cccdddc;", 2, 0);
+        Check.fault("length 3;length 8;", 2, 7);
     }
 
     private static void promise5() {
@@ -334,7 +315,7 @@ public final class PromiseTest {
         }
         String first = Check.line(z);
         z.send(2, -7);
-        same("the same seed", Check.line(z), first + first);
+        Keep.same("the same seed", Check.line(z), first + first);
     }
 
     private static void promise6ChecksAndLink() {
@@ -381,7 +362,7 @@ public final class PromiseTest {
         due("no acts", x.count(13), acts);
         Check.due("turn(2)", x.turn(2), true);
         Check.due("turn(3)", x.turn(3), true);
-        same("turned", Check.line(x), "0110");
+        Keep.same("turned", Check.line(x), "0110");
     }
 
     private static void promise8() {
@@ -398,9 +379,9 @@ public final class PromiseTest {
         due("lose(8, 1)", x.lose(8, 1), NONE);
         due("lose(MAX, 500)", x.lose(MAX, 500), NONE);
         due("lose(MIN, 500)", x.lose(MIN, 500), NONE);
-        same("nothing is lost", Check.line(x), "01101001");
+        Keep.same("nothing is lost", Check.line(x), "01101001");
         due("lose(3, 2)", x.lose(3, 2), 6);
-        same("two are lost", Check.line(x), "011001");
+        Keep.same("two are lost", Check.line(x), "011001");
         due("lose(2, 4)", x.lose(2, 4), 2);
         Framer y = new Framer();
         y.send(8, 1);
@@ -428,13 +409,13 @@ public final class PromiseTest {
         due("ahead of it", x.put(0, false), 2);
         due("behind all", x.put(2, false), 3);
         due("between", x.put(2, true), 4);
-        same("put", Check.line(x), "0110");
+        Keep.same("put", Check.line(x), "0110");
         x.hear(2);
         due("heard", x.put(1, true), NONE);
         due("put(MAX)", x.put(MAX, true), NONE);
         due("put(MIN)", x.put(MIN, true), NONE);
         due("at the first not heard", x.put(2, false), 5);
-        same("put behind what is heard", Check.line(x), "01010");
+        Keep.same("put behind what is heard", Check.line(x), "01010");
         Framer y = Check.made("length 20;roles 0 1;");
         for (int n = 0; n < 12; n++) {
             y.send(8, n);
@@ -497,10 +478,10 @@ public final class PromiseTest {
         due("six can be", x.count(13), 6);
         for (int a = 6; a >= 1; a--) {
             due("undo of act " + a, x.undo(), a - 1);
-            same("undo of act " + a, withoutActs(x), states[a]);
+            Keep.same("undo of act " + a, withoutActs(x), states[a]);
         }
         due("the latest 6 alone", x.undo(), NONE);
-        same("a refused undo", withoutActs(x), states[1]);
+        Keep.same("a refused undo", withoutActs(x), states[1]);
         due("what was said before stays", x.count(15), 1);
         x.send(8, 7);
         x.send(2, 7);
@@ -632,10 +613,10 @@ public final class PromiseTest {
         int[] left = {7, 6, 5, 4, 4, 3, 2};
         for (int i = 0; i < 7; i++) {
             x.hear(1);
-            receiver("hunting " + i, x, 0, left[i], 1, 0, 0, 0, NONE, i + 1, 0);
+            Check.receiver("hunting " + i, x, 0, left[i], 1, 0, 0, 0, NONE, i + 1, 0);
         }
         x.hear(1);
-        receiver("locked", x, 2, 1, 1, 0, 1, 0, 0, 0, 0);
+        Check.receiver("locked", x, 2, 1, 1, 0, 1, 0, 0, 0, 0);
         due("receiver(18)", x.receiver(18), NONE);
         due("receiver(-1)", x.receiver(-1), NONE);
         due("receiver(MAX)", x.receiver(MAX), NONE);
@@ -643,39 +624,39 @@ public final class PromiseTest {
         Framer y = Check.made("length 4;roles 0 1;least 3;");
         Check.append(y, SMALL_BITS + "0");
         y.hear(8);
-        receiver("one left, too few heard by it", y, 0, 1, 1, 0, 0, 0, NONE, 8);
+        Check.receiver("one left, too few heard by it", y, 0, 1, 1, 0, 0, 0, NONE, 8);
         y.hear(1);
-        receiver("three heard", y, 2, 1, 1, 0, 1, 0, 1, 0);
+        Check.receiver("three heard", y, 2, 1, 1, 0, 1, 0, 1, 0);
         Framer z = Check.made(SMALL);
         Check.append(z, "1111 1111 0");
         z.hear(7);
-        receiver("ones", z, 0, 1, 1);
+        Check.receiver("ones", z, 0, 1, 1);
         z.hear(1);
-        receiver("none is left", z, 0, 8, 2, 0, 0, 0, NONE, 0);
+        Check.receiver("none is left", z, 0, 8, 2, 0, 0, 0, NONE, 0);
         z.hear(1);
-        receiver("the next is the first", z, 0, 7, 2, 0, 0, 0, NONE, 1);
+        Check.receiver("the next is the first", z, 0, 7, 2, 0, 0, 0, NONE, 1);
     }
 
     private static void promise16Verifies() {
         Framer x = Check.made(CHECKED);
         Check.append(x, CHECKED_BITS + CHECKED_BITS + CHECKED_BITS);
         x.hear(12);
-        receiver("verifies", x, 1, 1, 1, 0, 0, 0, 0, 0, 0);
+        Check.receiver("verifies", x, 1, 1, 1, 0, 0, 0, 0, 0, 0);
         x.hear(23);
-        receiver("still", x, 1, 1, 1, 0, 0, 0, 11, 23, 0);
+        Check.receiver("still", x, 1, 1, 1, 0, 0, 0, 11, 23, 0);
         x.image(0);
         x.hear(1);
-        receiver("its checks hold", x, 2, 1, 1, 0, 1, 0, 0, 0, 0);
+        Check.receiver("its checks hold", x, 2, 1, 1, 0, 1, 0, 0, 0, 0);
         x.again(0);
         x.lose(35, 1);
         x.put(35, true);
         x.hear(1);
-        receiver("a bit that is no check of its own", x, 2, 1, 1, 0, 1);
+        Check.receiver("a bit that is no check of its own", x, 2, 1, 1, 0, 1);
         Framer y = Check.made(CHECKED);
         Check.append(y, CHECKED_BITS + CHECKED_BITS + CHECKED_BITS + "0");
         y.turn(32);
         y.hear(36);
-        receiver("a mimic", y, 0, 12, 2, 1, 0, 0, NONE, 0, 0, 0);
+        Check.receiver("a mimic", y, 0, 12, 2, 1, 0, 0, NONE, 0, 0, 0);
         y.hear(1);
         due("it hunts from the next", y.receiver(7), 1);
         Framer z = Check.made(CHECKED);
@@ -684,7 +665,7 @@ public final class PromiseTest {
         z.hear(16);
         due("verifies", z.receiver(0), 1);
         z.hear(1);
-        receiver("a wrong bit", z, 0, 12, 2, 0, 0, 0, NONE, 0);
+        Check.receiver("a wrong bit", z, 0, 12, 2, 0, 0, 0, NONE, 0);
     }
 
     private static void promise16Lost() {
@@ -698,18 +679,18 @@ public final class PromiseTest {
         x.hear(3);
         due("still", x.receiver(0), 2);
         x.hear(1);
-        receiver("the first wrong one is not of the latest three", x, 2, 1, 1, 0, 1, 0, 5, 13, 1);
+        Check.receiver("the first wrong one is not of the latest three", x, 2, 1, 1, 0, 1, 0, 5, 13, 1);
         x.hear(3);
         x.hear(1);
-        receiver("two of three", x, 0, 8, 2, 0, 1, 1, NONE, 0, 0);
+        Check.receiver("two of three", x, 0, 8, 2, 0, 1, 1, NONE, 0, 0);
         Framer y = Check.made("length 4;roles 0 1;least 2;wrong 1 1;");
         Check.append(y, SMALL_BITS + "1" + SMALL_BITS + "1");
         y.hear(9);
-        receiver("one of one", y, 0, 8, 2, 0, 1, 1, NONE, 0, 0);
+        Check.receiver("one of one", y, 0, 8, 2, 0, 1, 1, NONE, 0, 0);
         y.hear(8);
-        receiver("locked again", y, 2, 1, 2, 0, 2, 1, 0, 0, 0);
+        Check.receiver("locked again", y, 2, 1, 2, 0, 2, 1, 0, 0, 0);
         y.hear(1);
-        receiver("lost again", y, 0, 8, 3, 0, 2, 2, NONE, 0, 0);
+        Check.receiver("lost again", y, 0, 8, 3, 0, 2, 2, NONE, 0, 0);
     }
 
     private static void promise16Store() {
@@ -724,7 +705,7 @@ public final class PromiseTest {
         x.hear(7);
         due("ahead of the third", x.receiver(15), 3550);
         x.hear(1);
-        receiver("what it brings comes first", x, 2, 1, 1, 0, 1, 0, 4, 4, 0, 0, 1, 0, 1, 0, 0, 600);
+        Check.receiver("what it brings comes first", x, 2, 1, 1, 0, 1, 0, 4, 4, 0, 0, 1, 0, 1, 0, 0, 600);
         Framer fast = Check.made("length 4;roles 0 1;least 2;drift 50;");
         Check.append(fast, SMALL_BITS);
         for (int i = 0; i < 10; i++) {
@@ -732,17 +713,17 @@ public final class PromiseTest {
         }
         fast.hear(88);
         // 88 * 1050 = 23 * 4000 + 400: 23 reads, the first two while nothing had come.
-        receiver("the other clock is fast", fast, 2, 1, 1, 0, 1, 0, 0, 80, 0, 0, 20, 0, 20, 1, 0, 400);
+        Check.receiver("the other clock is fast", fast, 2, 1, 1, 0, 1, 0, 0, 80, 0, 0, 20, 0, 20, 1, 0, 400);
         Framer slow = Check.made("length 4;roles 0 1;least 2;lag 50;");
         for (int i = 0; i < 46; i++) {
             Check.append(slow, SMALL_BITS);
         }
         slow.hear(143);
         // 143 * 950 = 33 * 4000 + 3850: 33 reads, 2 while nothing had come.
-        receiver("the other clock is slow", slow, 2, 1, 1, 0, 1, 0, 7, 135, 0, 0, 33, 0, 31, 0, 2, 3850);
+        Check.receiver("the other clock is slow", slow, 2, 1, 1, 0, 1, 0, 7, 135, 0, 0, 33, 0, 31, 0, 2, 3850);
         slow.hear(1);
         // The 34th frame comes ahead of the 34th read: the older of two is dropped for it.
-        receiver("a third", slow, 2, 1, 1, 0, 1, 0, 0, 136, 0, 0, 34, 1, 32, 0, 1, 800);
+        Check.receiver("a third", slow, 2, 1, 1, 0, 1, 0, 0, 136, 0, 0, 34, 1, 32, 0, 1, 800);
         due("frame 31 was dropped", slow.frame(0), 32);
     }
 
@@ -787,7 +768,7 @@ public final class PromiseTest {
         String bad = "0000 1000 " + (1 - (checks >> 2)) + "000 " + (1 - (checks >> 1 & 1)) + "000 " + (checks & 1) + "000";
         Check.append(x, right + right);
         x.hear(40);
-        receiver("locked at the end", x, 2, 1, x.receiver(2), 0, 1, 0, 0, 0);
+        Check.receiver("locked at the end", x, 2, 1, x.receiver(2), 0, 1, 0, 0, 0);
         Check.append(x, bad + right);
         x.hear(20);
         due("the one ahead was not heard since", x.receiver(9), 0);
@@ -928,7 +909,7 @@ public final class PromiseTest {
         for (int w = 0; w < 18; w++) {
             got[w] = x.ahead(8, 44, w);
         }
-        same("ahead", state(x), before);
+        Keep.same("ahead", state(x), before);
         due("ahead(0, ..)", x.ahead(0, 1, 0), NONE);
         due("ahead(9, ..)", x.ahead(9, 1, 0), NONE);
         due("ahead(MIN, ..)", x.ahead(MIN, 1, 0), NONE);
@@ -1085,7 +1066,7 @@ public final class PromiseTest {
         due("lost by the 400th", y.weak(), start);
         String before = state(y);
         y.weak();
-        same("weak", state(y), before);
+        Keep.same("weak", state(y), before);
     }
 
     private static Framer wide(int heard, int turned) {
@@ -1126,13 +1107,13 @@ public final class PromiseTest {
         due("it changes nothing", x.count(11), 384);
         Check.due("image(1)", x.image(1), true);
         Check.due("again(2)", x.again(2), true);
-        same("again", state(x), kept);
+        Keep.same("again", state(x), kept);
         due("again: ahead", x.ahead(8, 5, 16), ahead);
         due("nothing to undo", x.undo(), NONE);
         due("the fault, too", x.fault(true), 5);
         x.turn(50);
         Check.due("again(2) once more", x.again(2), true);
-        same("again, though turned since", state(x), kept);
+        Keep.same("again, though turned since", state(x), kept);
         Check.due("again(1)", x.again(1), true);
         due("the other image", x.count(11), 384);
     }
@@ -1159,11 +1140,11 @@ public final class PromiseTest {
         x.image(1);
         String first = reads(x, 21);
         x.again(1);
-        same("again: the store", reads(x, 21), first);
+        Keep.same("again: the store", reads(x, 21), first);
         x.again(1);
         x.hear(60);
         x.undo();
-        same("undo: the store", reads(x, 21), first);
+        Keep.same("undo: the store", reads(x, 21), first);
     }
 
     private static void promise28and29Checks() {

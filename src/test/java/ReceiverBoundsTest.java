@@ -332,6 +332,12 @@ public final class ReceiverBoundsTest {
         hear(x, bad);
         Check.due("not right", x.receiver(9), 2);
         Check.receiver("no more than counted", x, 2, 1, 1, 0, 1, 0, 0, 48, 0);
+        // Its checks are 1 0, by ones 4, 8, 12: what c are does not matter.
+        String two = "0000 1000 0000 0000";
+        Framer y = heard("length 4;roles 0 1 c c;poly 1;least 2;", two + two + "0000 1000 1000 0000" + two);
+        Check.due("locked", y.receiver(0), 2);
+        hear(y, "0000 1000 0000 1000");
+        Check.due("both c of one superframe are wrong: one", y.receiver(9), 1);
     }
 
     // ---- term 3: the link
@@ -534,6 +540,26 @@ public final class ReceiverBoundsTest {
         }
     }
 
+    @Says(at = "T3", value = "for each BIT that is heard, LOCKED or not")
+    static void theStoreStaysAsItIsLost() {
+        Framer x = Scenes.slow();
+        x.turn(144);
+        x.turn(148);
+        x.hear(149);
+        Check.due("lost", x.receiver(5), 1);
+        Check.due("read last", x.frame(0), 33);
+        Check.due("frame 34 is in the store", x.receiver(14), 1);
+        // 950 a bit: it reads behind 152 and 156 bits, ahead of any lock.
+        x.hear(2);
+        Check.due("still", x.frame(0), 33);
+        x.hear(1);
+        Check.due("it is read", x.frame(0), 34);
+        Check.due("nothing again", x.receiver(13), 0);
+        x.hear(4);
+        Check.due("it again", x.receiver(13), 1);
+        Check.due("read last", x.frame(0), 34);
+    }
+
     @Says(at = "T3", value = "if there is none, the one READ last AGAIN (if there was any)")
     static void againIfThereWasAny() {
         Framer x = Check.made(SMALL + "drift 50;");
@@ -626,8 +652,8 @@ public final class ReceiverBoundsTest {
     @Says(at = "T3", value = "in FRAMES that were READ")
     static void droppedIsNotCounted() {
         Framer x = Scenes.slow();
-        int[] frames = {29, 30, 31, 32};
-        int[] due = {1, 0, 0, 1};
+        int[] frames = {29, 30, 31, 32, 33};
+        int[] due = {1, 0, 0, 1, 0};
         for (int i = 0; i < frames.length; i++) {
             int last = 8 + 4 * frames[i] + 3;
             if (x.bit(last) != due[i]) {

@@ -7,7 +7,7 @@ import java.lang.annotation.Target;
 @Retention(RetentionPolicy.RUNTIME)
 @Target(ElementType.METHOD)
 @interface Says {
-    /** T1 to T4, or P1 to P29. */
+    /** T1 to T4, P1 to P29, or what stands above it in the document. */
     String at();
 
     String value();
